@@ -1,0 +1,224 @@
+import java.lang.reflect.InvocationTargetException;
+import java.lang.reflect.Method;
+import java.util.ArrayList;
+import java.util.HashMap;
+import java.util.List;
+import java.util.Map;
+import java.util.Random;
+
+/** Makes the same calls, by chance from fixed seeds, on JoinNet and on the model, and compares all answers. */
+public final class ModelTest {
+    private static final int NONE = -1000;
+    private static final Map<String, Method> METHODS = new HashMap<>();
+    private static int wrong;
+
+    private final Random random;
+    private final Texts texts;
+    private final JoinNet net = new JoinNet();
+    private final Model model = new Model();
+    private final List<String> log = new ArrayList<>();
+    private boolean isOff;
+    private final boolean isRowdy;
+    private int rules;
+
+    private ModelTest(long seed) {
+        random = new Random(seed);
+        texts = new Texts(random);
+        isRowdy = chance(20);
+    }
+
+    public static void main(String[] args) throws IllegalAccessException {
+        int runs = args.length > 0 ? Integer.parseInt(args[0]) : 1500;
+        int first = args.length > 1 ? Integer.parseInt(args[1]) : 0;
+        for (Class<?> side : new Class<?>[] {JoinNet.class, Model.class}) {
+            for (Method method : side.getDeclaredMethods()) {
+                if (java.lang.reflect.Modifier.isPublic(method.getModifiers())) {
+                    METHODS.put(side.getName() + method.getName(), method);
+                }
+            }
+        }
+        for (int i = first; i < first + runs && wrong < 5; i++) {
+            new ModelTest(i).play(i);
+        }
+        System.out.println(wrong == 0 ? runs + " runs answer like the model" : wrong + " runs do not");
+        if (wrong != 0) {
+            System.exit(1);
+        }
+    }
+
+    private boolean chance(int percent) {
+        return random.nextInt(100) < percent;
+    }
+
+    private static String answer(Object side, String name, Object... arguments) throws IllegalAccessException {
+        try {
+            return String.valueOf(METHODS.get(side.getClass().getName() + name).invoke(side, arguments));
+        } catch (InvocationTargetException e) {
+            Throwable thrown = e.getCause();
+            boolean isMachines = thrown.getStackTrace().length > 0
+                    && !thrown.getStackTrace()[0].getClassName().equals(side.getClass().getName());
+            return "throws." + thrown.getClass().getSimpleName() + (isMachines ? " by the machine" : "");
+        }
+    }
+
+    private String same(String name, Object... arguments) throws IllegalAccessException {
+        if (isOff) {
+            return "";
+        }
+        String got = answer(net, name, arguments);
+        String due = answer(model, name, arguments);
+        log.add(name + java.util.Arrays.toString(arguments) + " " + got);
+        if (!got.equals(due)) {
+            isOff = true;
+            log.add("due is " + due);
+        }
+        return got;
+    }
+
+    private void play(int seed) throws IllegalAccessException {
+        if (chance(40)) {
+            fillTable();
+        }
+        int calls = 10 + random.nextInt(60);
+        int start = 1 + random.nextInt(isRowdy ? 8 : 4);
+        for (int i = 0; i < start; i++) {
+            tellText(true);
+        }
+        for (int i = 0; i < calls && !isOff; i++) {
+            step();
+            compareAll();
+        }
+        if (isOff) {
+            wrong++;
+            System.out.println("seed " + seed);
+            for (String line : log) {
+                System.out.println("  " + line);
+            }
+        }
+    }
+
+    private void tellText(boolean isRule) throws IllegalAccessException {
+        String text = isRule ? texts.rule() : texts.goal();
+        log.add("text " + text);
+        for (int at = 0; at < text.length();) {
+            int n = Math.min(1 + random.nextInt(8), text.length() - at);
+            long bytes = random.nextLong();
+            bytes = n == 8 ? 0 : bytes << 8 * n;
+            for (int i = 0; i < n; i++) {
+                bytes |= (long) text.charAt(at + i) << 8 * i;
+            }
+            same("feed", bytes, n);
+            at += n;
+        }
+        String got = same(isRule ? "rule" : "goal");
+        rules += isRule && !got.startsWith("throws") ? 1 : 0;
+    }
+
+    private void fillTable() throws IllegalAccessException {
+        int rows = random.nextInt(6);
+        for (int i = 0; i < rows; i++) {
+            int from = random.nextInt(5);
+            int other = random.nextInt(5);
+            same("row", random.nextInt(2), from, from + random.nextInt(5), other, other + random.nextInt(5),
+                    random.nextInt(9) - 3, random.nextInt(4));
+        }
+        same("policy", random.nextInt(2), random.nextInt(4));
+    }
+
+    private int value() {
+        return chance(93) ? random.nextInt(4) : chance(80) ? random.nextInt(1999) - 999 : random.nextInt(2500) - 1250;
+    }
+
+    private int kind() {
+        return chance(95) ? random.nextInt(3) : random.nextInt(9);
+    }
+
+    private void step() throws IllegalAccessException {
+        int what = random.nextInt(100);
+        if (what < 30) {
+            int life = chance(75) ? NONE : chance(95) ? 1 + random.nextInt(5) : random.nextInt(103);
+            int grade = chance(50) ? 100 : chance(95) ? random.nextInt(101) : random.nextInt(120) - 10;
+            same("tell", kind(), value(), value(), value(), grade, life);
+        } else if (what < 42) {
+            same("fire");
+        } else if (what < 54) {
+            same("run", chance(95) ? 1 + random.nextInt(12) : random.nextInt(53));
+        } else if (what < 60) {
+            same("pass", chance(90) ? 1 + random.nextInt(3) : random.nextInt(103));
+        } else if (what < 66) {
+            same("drop", someFact());
+        } else if (what < 69) {
+            tellText(true);
+        } else if (what < 71) {
+            same("dropRule", random.nextInt(rules + 1));
+        } else if (what < 77) {
+            same("focus", chance(95) ? random.nextInt(4) : random.nextInt(6) - 1);
+        } else if (what < 83) {
+            same("takeBack", chance(70) ? 1 : random.nextInt(8));
+        } else if (what < 89) {
+            same("wouldBe", random.nextInt(chance(90) ? 10 : 53), kind(), value(), value(), value());
+        } else if (what < 91) {
+            tellText(false);
+        } else if (what < 93) {
+            fillTable();
+        } else if (what < 95) {
+            same("outcome", random.nextInt(3), value(), value());
+            same("hole", random.nextInt(3), chance(50));
+        } else if (what < 98) {
+            same("follows", kind(), value(), value(), value());
+        } else {
+            same("rule");
+            same("goal");
+            same("factAt", random.nextInt(25) - 2);
+            same("fact", someFact(), random.nextInt(10) - 1);
+            same("why", someFact(), random.nextInt(4) - 1, random.nextInt(6) - 1);
+            same("met", random.nextInt(rules + 2) - 1);
+            same("next", random.nextInt(6) - 1);
+            same("feed", random.nextLong(), random.nextInt(10));
+            same("policy", random.nextInt(4) - 1, random.nextInt(6) - 1);
+        }
+    }
+
+    private int someFact() throws IllegalAccessException {
+        int facts = Integer.parseInt(answer(net, "facts"));
+        if (facts == 0 || chance(5)) {
+            return random.nextInt(10) - 1;
+        }
+        return Integer.parseInt(answer(net, "factAt", random.nextInt(facts)));
+    }
+
+    private void compareAll() throws IllegalAccessException {
+        int kept = log.size();
+        int facts = isOff ? 0 : Integer.parseInt(same("facts"));
+        for (int place = 0; place < facts && !isOff; place++) {
+            int number = Integer.parseInt(same("factAt", place));
+            int supports = 0;
+            for (int what = 0; what < 8 && !isOff; what++) {
+                String told = same("fact", number, what);
+                supports = isOff ? 0 : Integer.parseInt(told);
+            }
+            for (int support = 0; support <= supports; support++) {
+                for (int what = 0; what < 4; what++) {
+                    same("why", number, support, what);
+                }
+            }
+        }
+        same("matches");
+        same("agenda");
+        for (int what = 0; what < 4; what++) {
+            same("next", what);
+        }
+        same("loop");
+        same("shared", true);
+        same("shared", false);
+        for (int rule = 0; rule < rules; rule++) {
+            same("met", rule);
+        }
+        if (chance(10)) {
+            same("follows", kind(), value(), value(), value());
+        }
+        if (!isOff) {
+            log.subList(kept, log.size()).clear();
+        }
+    }
+}
