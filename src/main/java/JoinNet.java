@@ -422,9 +422,7 @@ public final class JoinNet {
         }
 
         void clear() {
-            special = 0;
             conditionCount = 0;
-            positives = 0;
             actionCount = 0;
             codeLength = 0;
         }

@@ -289,6 +289,10 @@ public final class FiringTest {
         check.due("~ plain", 1, belief.fact(2, 6));
         check.due("~ no supports", 0, belief.fact(2, 7));
         check.due("~ its grade", 70, belief.fact(2, 4));
+        JoinNet nothing = Check.withRules("0,0,100:a(x,_,_)=>~1.0=5");
+        nothing.tell(0, 1, 0, 0, 0, NONE);
+        nothing.fire();
+        check.isTrue("~ of grade 0", Check.has(nothing, 'a', 5, 0, 0) && nothing.fact(1, 4) == 0);
     }
 
     private static void fullOfFacts() {
@@ -340,10 +344,15 @@ public final class FiringTest {
         check.due("& of a match that holds no more does nothing", 1, gone.facts());
         check.due("a came anew", 1, gone.factAt(0));
         JoinNet self = Check.withRules("0,0,100:a(x,_,_)!b(x,_,_)=>&b(x,0,0)");
+        Check.fact(self, 'h', 1, 0, 0);
         Check.fact(self, 'a', 1, 0, 0);
         self.fire();
-        check.due("a belief that ends its own match goes", 1, self.facts());
+        check.due("a belief that ends its own match goes", 2, self.facts());
         check.due("and the match is open again", 1, self.agenda());
+        // Now the belief gets the room of the fact that was the first.
+        self.drop(0);
+        self.fire();
+        check.due("a belief that ends its own match goes", 1, self.facts());
         check.due("run", 1, self.run(50));
         check.due("loop", 1, self.loop());
         // The match holds again when the & comes, so it is its support.

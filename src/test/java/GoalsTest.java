@@ -26,7 +26,7 @@ public final class GoalsTest {
         check.due("23 the tape is used up", 1, net.feed('x', 1));
         check.badState("23 bad and 6", net::goal);
         String[] bad = {"", "a(1,2,3)", "a(1,2,3):", "a(1,2,3)b(_,_,_)", "a(_,2,3):b(_,_,_)", "a(x,2,3):b(_,_,_)",
-            "a(1,2,3):b(_,_)", "a(1,2):b(_,_,_)", "i(1,2,3):b(_,_,_)", "a(1,2,3):i(_,_,_)", "a(1,2,3):b(x+1,x,_)",
+            "a(1,2,3):b(_,_)", "a(1,2):b(_,_,_)", "i(1,2,3):b(_,_,_)", "(1,2,3):b(_,_,_)", "a(1,2,3):(_,_,_)", "a(1,2,3):i(_,_,_)", "a(1,2,3):b(x+1,x,_)",
             "a(1,2,3):b(x,x+1,_)", "a(1,2,3):b(x,<x,_)", "a(1,2,3):b(<1,_,_)", "a(1,2,3):b(#1,_,_)", "a(1,2,3):b(>1,_,_)",
             "a(1,2,3):b(_,_,_)<3", "a(1,2,3):b(_,_,_)b(_,_,_)/1", "a(1,2,3):!b(_,_,_)", "a(1,2,3):b(@,_,_)",
             "a(x+1,2,3):b(x,_,_)", "a(1,2,3):b(_,_,_)b(_,_,_)b(_,_,_)b(_,_,_)", "a(1,2,3):b(_,_,_)x",
@@ -72,6 +72,10 @@ public final class GoalsTest {
         Check.fact(same, 'a', 1, 0, 0);
         Check.fact(same, 'a', 2, 0, 0);
         check.isTrue("24 the same thing for several", same.follows(1, 1, 1, 2) && same.follows(1, 2, 2, 2));
+        Check.goal(same, "c(p,z,-5):b(p,p,z)b(z,z,_)");
+        check.isTrue("24 the same value", same.follows(2, 1, 2, -5) && !same.follows(2, 3, 3, -5));
+        same.tell(1, 3, 4, 1, 100, NONE);
+        check.isTrue("24 not the same value", !same.follows(2, 3, 1, -5) && !same.follows(2, 4, 1, -5));
         // Goal rules say nothing to the firing, and are not taken back by it.
         check.due("24 no matches", 0, same.matches());
     }
