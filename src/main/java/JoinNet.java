@@ -924,9 +924,9 @@ public final class JoinNet {
             if (rule.number < 0) {
                 return false;
             }
-            chosen[0] = match / (MOST_FACTS * MOST_FACTS) % MOST_FACTS;
-            chosen[1] = match / MOST_FACTS % MOST_FACTS;
-            chosen[2] = match % MOST_FACTS;
+            for (int k = 0; k < MOST_FACTS_OF_MATCH; k++) {
+                chosen[k] = placeIn(match, k);
+            }
             for (int i = 0; i < rule.conditionCount; i++) {
                 Condition condition = rule.conditions[i];
                 boolean isPositive = condition.form == Condition.POSITIVE;

@@ -211,6 +211,25 @@ public final class FactsTest {
         third.fire();
         third.pass(3);
         check.due("5 a went first", 0, third.agenda());
+        // By numbers, and not by the room that the facts have: that of the first fact is used again.
+        for (int late = 0; late < 2; late++) {
+            JoinNet net4 = Check.withRules(noMatch);
+            Check.fact(net4, 'h', 0, 0, 0);
+            Check.fact(net4, 'b', 0, 0, 0);
+            net4.tell(late == 0 ? 0 : 7, 1, 0, 0, 100, 2);
+            net4.drop(0);
+            net4.tell(late == 0 ? 2 : 0, 1, 0, 0, 100, 2);
+            net4.tell(late == 0 ? 7 : 2, 1, 0, 0, 100, 2);
+            net4.fire();
+            net4.pass(2);
+            check.due("5 by numbers", 0, net4.agenda());
+        }
+        JoinNet all = new JoinNet();
+        for (int i = 0; i < 20; i++) {
+            all.tell(0, i, 0, 0, 100, 1);
+        }
+        all.pass(1);
+        check.due("5 all of 20", 0, all.facts());
     }
 
     private static void factsAndPlaces() {

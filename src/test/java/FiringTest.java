@@ -20,6 +20,8 @@ public final class FiringTest {
         beliefs();
         beliefsThatEndWhileFiring();
         rings();
+        lowestNumberFirst();
+        manyReasons();
         grades();
         run();
         loop();
@@ -154,6 +156,9 @@ public final class FiringTest {
         times.pass(1);
         Check.fact(times, 'b', 1, 1, 1);
         check.due("specialness of /", 21, order(times));
+        JoinNet ages = Check.withRules("0,0,100:a(_,_,_)=>^0", "0,0,100:a(_,_,_)<5=>^0");
+        Check.fact(ages, 'a', 1, 1, 1);
+        check.due("specialness of <", 21, order(ages));
     }
 
     private static void agendaByRulesAndFacts() {
@@ -379,13 +384,66 @@ public final class FiringTest {
         check.due("c is plain", 2, net.drop(a));
         check.due("b by c", 1, net.fact(net.factAt(0), 7));
         check.due("c by b, and plain", 1, net.fact(net.factAt(1), 7));
-        // The lowest number goes first: once b is gone, "no b" holds c.
-        JoinNet lowest = Check.withRules("0,0,100:a(x,_,_)=>&b(x,0,0)&c(x,0,0)", "0,0,100:c(x,_,_)=>&b(x,0,0)&d(0,0,0)",
-                "0,0,100:b(x,_,_)=>&c(x,0,0)", "0,0,100:d(_,_,_)!b(_,_,_)=>+e(0,0,0)");
-        Check.fact(lowest, 'a', 1, 0, 0);
-        lowest.run(9);
-        check.due("b, c and d", 4, lowest.facts());
-        check.due("all of it goes", 0, lowest.drop(0));
+    }
+
+    /** Of a ring of b and c that goes, b has the lower number: "each b has a c" holds on, "each c has a b" does not. */
+    private static void lowestNumberFirst() {
+        for (int drops = 0; drops < 3; drops++) {
+            JoinNet net = Check.withRules("0,0,100:a(x,_,_)=>&b(x,0,0)", "1,0,100:b(x,_,_)=>&c(x,0,0)",
+                    "1,0,100:c(x,_,_)=>&b(x,0,0)", "2,1,100:h(_,_,_)*b(x,_,_)c(x,_,_)=>^1",
+                    "2,1,100:h(_,_,_)*c(x,_,_)b(x,_,_)=>^1");
+            Check.fact(net, 'g', 1, 0, 0);
+            Check.fact(net, 'h', 1, 0, 0);
+            Check.fact(net, 'a', 1, 0, 0);
+            // The room of g is used again: by b, or by c, or not at all.
+            if (drops == 0) {
+                net.drop(0);
+            }
+            net.fire();
+            if (drops == 1) {
+                net.drop(0);
+            }
+            net.run(2);
+            net.focus(1);
+            net.fire();
+            net.fire();
+            check.due("both fired", 0, net.agenda());
+            net.drop(2);
+            check.due("ring is gone", drops < 2 ? 1 : 2, net.facts());
+            check.due("one is open again", 1, net.agenda());
+            check.due("each c has a b", 4, net.next(0));
+        }
+        // 19 beliefs go in one call.
+        JoinNet many = new JoinNet();
+        for (int i = 0; i < 5; i++) {
+            String three = "&b(x,0,1)&b(x,0,2)&b(x,0,3)&b(x,0,4)".replace("0,", i + ",");
+            Check.rule(many, "0,0,100:a(x,_,_)=>" + (i < 4 ? three : three.substring(0, 27)));
+        }
+        Check.fact(many, 'a', 1, 0, 0);
+        many.run(5);
+        check.due("19 beliefs", 20, many.facts());
+        check.due("all of them go", 0, many.drop(0));
+    }
+
+    private static void manyReasons() {
+        JoinNet net = Check.withRules("0,0,1:a(_,_,_)a(_,_,_)=>&h(0,0,0)");
+        for (int i = 0; i < 19; i++) {
+            Check.fact(net, 'a', i, 0, 0);
+        }
+        for (int i = 0; i < 150; i++) {
+            net.fire();
+        }
+        check.due("supports", 150, net.fact(19, 7));
+        check.due("open", 361 - 150, net.agenda());
+        check.due("the first reason", 18, net.why(19, 0, 1));
+        net.takeBack(6);
+        check.due("supports", 144, net.fact(19, 7));
+        check.isTrue("would be", net.wouldBe(9, 7, 0, 0, 0));
+        check.due("supports", 144, net.fact(19, 7));
+        net.drop(18);
+        check.due("supports of the others", 144 - 37, net.fact(19, 7));
+        check.due("matches of the others", 324, net.matches());
+        check.due("open ones of the others", 361 - 37 - 107, net.agenda());
     }
 
     private static void grades() {
@@ -453,6 +511,15 @@ public final class FiringTest {
         check.due("19 nothing changes", 1, loopOf("a(_,_,_)=>+a(0,0,0)"));
         check.due("19 the focus counts", 0, loopOf("a(_,_,_)=>^1"));
         check.due("19 numbers do not count", 1, loopOf("a(_,_,_)=>~1.0=0"));
+        // All of 20 facts count.
+        for (char kind : new char[] {'a', 'h'}) {
+            JoinNet full = Check.withRules("0,0,100:" + kind + "(x,_,_)=>~1.0=x+1");
+            for (int i = 0; i < 19; i++) {
+                Check.fact(full, 'c', i, 0, 0);
+            }
+            Check.fact(full, kind, 0, 0, 0);
+            check.due("19 no loop", 50, full.run(50));
+        }
         // The focus at the beginning is that ahead of the firing, which takes a unit away here.
         JoinNet focus = Check.withRules("0,0,100:a(_,_,_)=>+a(0,0,0)");
         Check.fact(focus, 'a', 0, 0, 0);

@@ -37,6 +37,11 @@ public final class GoalsTest {
         JoinNet other = new JoinNet();
         Check.feed(other, "a(1,2,3):");
         check.badState("23 bad", other::goal);
+        Check.feed(other, "h(1,2,3):b(_,_,_)x");
+        check.badState("23 bad", other::goal);
+        Check.fact(other, 'b', 1, 1, 1);
+        check.isTrue("23 a bad one tells nothing", !other.follows(7, 1, 2, 3));
+        other.drop(0);
         check.due("23 a bad one does not count", 1, Check.goal(other, "a(1,2,3):b(_,_,_)"));
         check.isTrue("23 nor tells anything", !other.follows(0, 1, 2, 3));
     }
