@@ -197,6 +197,14 @@ public final class FiringTest {
         net.drop(0);
         Check.fact(net, 'a', 1, 0, 0);
         check.due("another fact, another match", 1, net.agenda());
+        // What comes ends matches also if it gets the room of a fact that went.
+        JoinNet room = Check.withRules("0,0,100:a(x,_,_)!b(x,_,_)=>+b(x,0,0)");
+        Check.fact(room, 'h', 1, 0, 0);
+        Check.fact(room, 'a', 1, 0, 0);
+        room.drop(0);
+        room.fire();
+        room.drop(2);
+        check.due("open again", 1, room.agenda());
         // A match that ends and comes again during its own firing is open.
         JoinNet own = Check.withRules("0,0,100:a(x,_,_)!b(x,_,_)=>+b(x,0,0)", "1,0,100:b(_,_,_)=>-1");
         Check.fact(own, 'a', 1, 0, 0);
