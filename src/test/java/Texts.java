@@ -6,6 +6,9 @@ import java.util.Random;
 final class Texts {
     private static final String[] NUMBERS = {"0", "1", "2", "3", "-1", "02", "999", "-999", "500", "-0"};
     private final Random random;
+    // The fewer kinds and the more blanks, the more matches: it is drawn for each run.
+    private final int kinds;
+    private final int blanks;
     private final StringBuilder text = new StringBuilder();
     private final List<Character> known = new ArrayList<>();
     private final List<Character> here = new ArrayList<>();
@@ -13,6 +16,8 @@ final class Texts {
 
     Texts(Random random) {
         this.random = random;
+        kinds = 2 + random.nextInt(2);
+        blanks = 35 + random.nextInt(35);
     }
 
     private boolean chance(int percent) {
@@ -24,7 +29,7 @@ final class Texts {
     }
 
     private char kind() {
-        return (char) ('a' + random.nextInt(chance(95) ? 3 : 8));
+        return (char) ('a' + random.nextInt(chance(96) ? kinds : 8));
     }
 
     private char variable() {
@@ -133,7 +138,7 @@ final class Texts {
     private void slot(boolean isSummed) {
         if (isSummed) {
             text.append('@');
-        } else if (chance(45)) {
+        } else if (chance(blanks)) {
             text.append('_');
         } else if (chance(60)) {
             char variable = variable();
