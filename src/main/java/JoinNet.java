@@ -322,6 +322,8 @@ public final class JoinNet {
     /** What a fact must be like. Which variable gets a value where is known when the text is read. */
     private static final class Pattern {
         static final int ANY = 0, BIND = 1, SAME = 2, LESS = 3, MORE = 4, OTHER = 5;
+        // No fact gets as old as that in all calls of an object.
+        static final int ANY_AGE = 1_000_000_000;
 
         int kind;
         final int[] test = new int[3];
@@ -334,7 +336,7 @@ public final class JoinNet {
         void clear(int newKind) {
             kind = newKind;
             summed = -1;
-            youngerThan = Integer.MAX_VALUE;
+            youngerThan = ANY_AGE;
             behind = -1;
         }
 

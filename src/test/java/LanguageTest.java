@@ -35,7 +35,8 @@ public final class LanguageTest {
         String code = line.replaceAll("\"[^\"]*\"", "\"\"").replaceAll("//.*", "").replaceAll("/\\*\\*.*", "");
         String[] bad = {"->", "::", "\\bfinally\\b", "\\bassert\\b", "\\bsynchronized\\b", "\\btry\\b", "\\bcatch\\b",
             "Exact\\(", "\\bpackage\\b", "\\bprotected\\b", "\\binstanceof\\b", "\\bRandom\\b", "System\\.(?!arraycopy)",
-            "\"\" \\+|\\+ \"\"", "\\b(equals|hashCode|toString)\\(", "\\bvar\\b", "\\[\\]\\[\\]\\[\\]", "static \\{"};
+            "\"\" \\+|\\+ \"\"", "\\b(equals|hashCode|toString)\\(", "\\bvar\\b", "\\[\\]\\[\\]\\[\\]", "static \\{",
+            "_VALUE\\b"};
         for (String word : bad) {
             if (Pattern.compile(word).matcher(code).find()) {
                 isWrong(number, "has " + word);
