@@ -1,6 +1,20 @@
 /** Counts answers that are not as due, and has the calls that most tests need. */
 final class Check {
     static final int NONE = JoinNet.NONE;
+    static final Class<IllegalArgumentException> ARGUMENT = IllegalArgumentException.class;
+    static final Class<IllegalStateException> STATE = IllegalStateException.class;
+    static final Class<IndexOutOfBoundsException> INDEX = IndexOutOfBoundsException.class;
+
+    /** Makes an object that one call is tried on. */
+    interface Maker {
+        JoinNet make();
+    }
+
+    /** A call with one argument that is tried with several values. */
+    interface Call {
+        void on(JoinNet net, int value);
+    }
+
     private final String name;
     private int made;
     private int wrong;
@@ -28,7 +42,7 @@ final class Check {
         try {
             call.run();
         } catch (RuntimeException e) {
-            boolean isOwn = e.getStackTrace()[0].getClassName().equals("JoinNet");
+            boolean isOwn = e.getStackTrace()[0].getClassName().startsWith("JoinNet");
             got = e.getClass().getName() + (isOwn ? "" : " of the machine");
         }
         if (!got.equals(due.getName())) {
@@ -49,6 +63,28 @@ final class Check {
         isThrown(IllegalStateException.class, what, call);
     }
 
+    void isFine(String what, Runnable call) {
+        made++;
+        try {
+            call.run();
+        } catch (RuntimeException e) {
+            wrong++;
+            System.out.println(what + " threw " + e.getClass().getName() + ", due is nothing");
+        }
+    }
+
+    /** Due is that an argument is taken from least to most, and that this exception is thrown on both sides. */
+    void bounds(String what, Class<? extends RuntimeException> due, int least, int most, Maker maker, Call call) {
+        for (int good : new int[] {least, (least + most) / 2, most}) {
+            JoinNet net = maker.make();
+            isFine(what + " " + good, () -> call.on(net, good));
+        }
+        for (int bad : new int[] {least - 1, most + 1, Integer.MIN_VALUE, Integer.MAX_VALUE}) {
+            JoinNet net = maker.make();
+            isThrown(due, what + " " + bad, () -> call.on(net, bad));
+        }
+    }
+
     void isRule(String text) {
         JoinNet net = new JoinNet();
         feed(net, text);
@@ -63,6 +99,12 @@ final class Check {
         JoinNet net = new JoinNet();
         feed(net, text);
         badState("rule " + text, net::rule);
+    }
+
+    void isGoal(String text) {
+        JoinNet net = new JoinNet();
+        feed(net, text);
+        isFine("goal " + text, net::goal);
     }
 
     void isNoGoal(String text) {
@@ -104,6 +146,15 @@ final class Check {
         JoinNet net = new JoinNet();
         for (String text : texts) {
             rule(net, text);
+        }
+        return net;
+    }
+
+    /** An object with facts of kind a, numbered from 0, which are their first slots too. */
+    static JoinNet withFacts(int many) {
+        JoinNet net = new JoinNet();
+        for (int i = 0; i < many; i++) {
+            fact(net, 'a', i, 0, 0);
         }
         return net;
     }
