@@ -19,6 +19,7 @@ public final class MillTest {
         settledInOrder();
         latestSix();
         allIsAsItWas();
+        eachPartIsBack();
         whatStays();
         forgotten();
         states();
@@ -110,6 +111,21 @@ public final class MillTest {
             check.due("by facts, lesser numbers first", pair[1], net.next(2));
             net.fire();
         }
+        // The last of 20 facts, by the last of ten rules.
+        JoinNet last = new JoinNet();
+        for (int i = 0; i < 10; i++) {
+            Check.rule(last, i + ",0,9:a(_,_,_)a(_,_,_)a(_,_,_)=>^0");
+        }
+        for (int i = 0; i < 20; i++) {
+            Check.fact(last, 'a', i, 0, 0);
+        }
+        check.due("all of them", 80000, last.matches());
+        check.due("the last rule", 9, last.fire());
+        check.due("fired", 79999, last.agenda());
+        check.due("the next facts", 18 + 19 + 19, last.next(1) + last.next(2) + last.next(3));
+        last.takeBack(1);
+        check.due("open", 80000, last.agenda());
+        check.due("the last facts", 57, last.next(1) + last.next(2) + last.next(3));
         // Numbers are compared as numbers: 9 and 10, 19 and 20.
         JoinNet many = Check.withRules("0,0,9:a(_,_,_)=>^0");
         for (int i = 0; i < 25; i++) {
@@ -391,6 +407,24 @@ public final class MillTest {
         check.due("ring", 5, net.facts());
         check.due("e holds it", 4, net.drop(0));
         check.due("nothing holds it", 0, net.drop(1));
+        // A support may stand ahead of that by which it is founded.
+        JoinNet turned = Check.withRules("0,0,9:a(_,_,_)=>&b(0,0,0)", "0,0,9:b(_,_,_)=>&c(0,0,0)", "0,0,9:c(_,_,_)=>&d(0,0,0)");
+        Check.fact(turned, 'a', 0, 0, 0);
+        order(turned);
+        Check.fact(turned, 'a', 1, 0, 0);
+        order(turned);
+        check.due("the later a holds b, c and d", 4, turned.drop(0));
+        check.due("nothing holds them", 0, turned.drop(4));
+        // A belief that is dropped takes its supports along, and those that rest on it, but no others.
+        JoinNet three = Check.withRules("0,0,9:a(_,_,_)=>&b(0,0,0)&c(0,0,0)&d(0,0,0)", "0,0,9:c(_,_,_)=>&e(0,0,0)&d(0,0,0)");
+        Check.fact(three, 'a', 0, 0, 0);
+        order(three);
+        check.due("b goes", 4, three.drop(1));
+        check.due("c is believed", 0, three.why(2, 0, 0));
+        check.due("d is believed by two", 2, three.fact(3, 7));
+        check.due("c goes, and e", 2, three.drop(2));
+        check.due("d is believed by one", 1, three.fact(3, 7));
+        check.due("that is a", 0, three.why(3, 0, 1));
         // A support needs all facts of its match to be founded.
         JoinNet both = Check.withRules("9,0,9:a(_,_,_)=>&b(0,0,0)", "0,0,9:e(_,_,_)b(_,_,_)=>&b(0,0,0)", "0,0,9:e(_,_,_)b(_,_,_)=>&c(0,0,0)");
         Check.fact(both, 'a', 0, 0, 0);
@@ -471,6 +505,78 @@ public final class MillTest {
             check.due("it goes on as it did then", due.run(9), net.run(9));
             check.isTrue("as it was then", Story.ofMoment(due).equals(Story.ofMoment(net)));
             check.due("time", due.pass(1), net.pass(1));
+        }
+    }
+
+    private static void eachPartIsBack() {
+        // Facts in all of the room for 20.
+        for (int last = 0; last < 20; last++) {
+            JoinNet net = Check.withRules("0,0,9:a(" + last + ",_,_)=>~1.0=50+c(0,0,0)");
+            for (int i = 0; i < 20; i++) {
+                net.tell(0, i, 100 + i, 200 + i, i, NONE);
+            }
+            net.fire();
+            check.isTrue("would be", !net.wouldBe(1, 2, 0, 0, 0) && Check.has(net, 'a', 50, 100 + last, 200 + last));
+            net.takeBack(1);
+            check.due("20 facts", 20, net.facts());
+            check.due("its number", last, net.factAt(last));
+            for (int slot = 0; slot < 3; slot++) {
+                check.due("its slots", 100 * slot + last, net.fact(last, 1 + slot));
+            }
+        }
+        // A life, in the room of a fact that has none.
+        JoinNet life = Check.withRules("0,0,9:a(_,_,_)=>~1.0=5");
+        life.pass(2);
+        life.tell(0, 1, 0, 0, 9, 3);
+        life.pass(1);
+        life.fire();
+        life.pass(9);
+        check.due("without a life", 1, life.facts());
+        life.takeBack(1);
+        check.due("the time at which it came", 2, life.fact(0, 5));
+        life.pass(1);
+        check.due("its life", 1, life.facts());
+        check.due("now", 5, life.pass(1));
+        check.due("its life is over", 0, life.facts());
+        // What was fired, and supports, of which those ahead are gone in between.
+        JoinNet net = Check.withRules("0,0,9:a(x,_,_)=>&b(x,0,0)");
+        for (int i = 0; i < 3; i++) {
+            Check.fact(net, 'a', i, 0, 0);
+        }
+        for (int i = 0; i < 3; i++) {
+            net.fire();
+        }
+        check.due("a2 and b2 go", 4, net.drop(2));
+        net.takeBack(1);
+        check.due("a0 is open", 0, net.next(1));
+        check.due("a0 alone", 1, net.agenda());
+        check.due("a0 to a2, b2 and b1", 5, net.facts());
+        check.due("b2 is believed by a2", 2, net.why(3, 0, 1));
+        check.due("b1 is believed by a1", 1, net.why(4, 0, 1));
+        check.due("a1 and b1 go", 3, net.drop(1));
+        net.takeBack(2);
+        check.due("all are open", 3, net.agenda());
+        check.due("no beliefs", 3, net.facts());
+        // As many that were fired as one likes.
+        for (int often : new int[] {31, 32, 33, 64, 65, 100}) {
+            JoinNet many = Check.withRules("0,0,9:a(_,_,_)a(_,_,_)=>&h(0,0,0)");
+            for (int i = 0; i < 12; i++) {
+                Check.fact(many, 'a', i, 0, 0);
+            }
+            for (int i = 0; i < often; i++) {
+                many.fire();
+            }
+            check.due("left", 144 - often, many.agenda());
+            check.due("supports", often, many.fact(12, 7));
+            check.isTrue("would be", many.wouldBe(9, 7, 0, 0, 0));
+            check.due("left", 144 - often, many.agenda());
+            many.takeBack(1);
+            check.due("one more", 145 - often, many.agenda());
+            check.due("supports", often - 1, many.fact(12, 7));
+            many.drop(11);
+            check.due("those of the others", 121, many.matches());
+            // The 23 pairs with 11 were fired first.
+            check.due("open ones of the others", 121 - (often - 1 - 23), many.agenda());
         }
     }
 
@@ -711,6 +817,13 @@ public final class MillTest {
             check.isTrue("each slot, by itself", !all.follows(6, 7, 7, 7));
             check.isTrue("each slot", all.follows(7, slots[0], slots[1], slots[2]));
         }
+        // A goal rule's variables are its own, whatever a rule has told of them.
+        JoinNet own = Check.withRules("0,0,9:a(y,_,_)!b(x,y,z)=>^0");
+        Check.goal(own, "c(x,y,z):b(x,y,z)");
+        Check.rule(own, "0,0,9:a(y,_,_)?b(x,y,z)=>^0");
+        Check.goal(own, "d(y,z,x):b(x,y,z)");
+        Check.fact(own, 'b', 4, 5, 6);
+        check.isTrue("its own variables", own.follows(2, 4, 5, 6) && own.follows(3, 5, 6, 4) && !own.follows(2, 0, 0, 0));
         JoinNet values = new JoinNet();
         Check.goal(values, "h(-999,x,y):g(x,y,999)");
         values.tell(6, -999, 999, 999, 0, NONE);

@@ -1,4 +1,3 @@
-import java.lang.management.ManagementFactory;
 import java.util.Random;
 
 /**
@@ -10,8 +9,6 @@ public final class RoomTest {
     private static final int MOST_CALLS = 512;
     /** The room is told in objects and in fields; both are far off, as long as this many bytes are not taken. */
     private static final long MOST_BYTES = 5_000_000;
-    private static final com.sun.management.ThreadMXBean THREADS =
-            (com.sun.management.ThreadMXBean) ManagementFactory.getThreadMXBean();
     private static int wrong;
     private int calls;
     private final JoinNet net = new JoinNet();
@@ -38,13 +35,24 @@ public final class RoomTest {
     }
 
     private static void play(String what, Play play) {
-        long before = THREADS.getThreadAllocatedBytes(Thread.currentThread().getId());
+        long before = taken();
         RoomTest room = new RoomTest();
         play.on(room);
-        long bytes = THREADS.getThreadAllocatedBytes(Thread.currentThread().getId()) - before;
+        long bytes = taken() - before;
         if (bytes > MOST_BYTES) {
             wrong++;
             System.out.println(what + " took " + bytes + " bytes");
+        }
+    }
+
+    /** How many bytes this thread has taken so far; 0, if the Java that is used does not tell. */
+    private static long taken() {
+        try {
+            Object threads = Class.forName("java.lang.management.ManagementFactory").getMethod("getThreadMXBean").invoke(null);
+            return (Long) Class.forName("com.sun.management.ThreadMXBean").getMethod("getThreadAllocatedBytes", long.class)
+                    .invoke(threads, Thread.currentThread().getId());
+        } catch (ReflectiveOperationException e) {
+            return 0;
         }
     }
 

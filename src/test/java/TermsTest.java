@@ -172,6 +172,25 @@ public final class TermsTest {
             }
             check.due("no two that are alike", 7, net.facts());
         }
+        // Nor does an action take one for the other.
+        int[][] near = {{2, 1, 1, 2}, {2, 1, 2, 2}, {2, 1, 3, 3}, {2, 1, 2, 1}, {2, 3, 2, 3}, {2, 2, 2, 3}, {1, 1, 2, 3}, {2, 1, 3, 2}};
+        for (String action : new String[] {"+c(x,2,3)", "&c(x,2,3)", "~1.0=x"}) {
+            for (int[] other : near) {
+                String kind = action.startsWith("~") ? "c(x,2,4)" : "a(x,_,_)";
+                JoinNet one = Check.withRules("0,0,100:" + kind + "=>" + action.replace("~1.0=x", "~1.2=3"));
+                one.tell(other[0], other[1], other[2], other[3], 10, NONE);
+                one.tell(action.startsWith("~") ? 2 : 0, 1, 2, 4, 10, NONE);
+                one.fire();
+                check.isTrue(action, Check.has(one, 'c', 1, 2, 3));
+                check.due(action + " is not combined with another one", 10, one.fact(0, 4));
+            }
+            String kind = action.startsWith("~") ? "c(x,2,4)" : "a(x,_,_)";
+            JoinNet same = Check.withRules("0,0,100:" + kind + "=>" + action.replace("~1.0=x", "~1.2=3"));
+            same.tell(2, 1, 2, 3, 50, NONE);
+            same.tell(action.startsWith("~") ? 2 : 0, 1, 2, 4, 50, NONE);
+            same.fire();
+            check.due(action + " is combined with that one", 75, same.fact(0, 4));
+        }
     }
 
     private static void atMostTwenty() {
@@ -445,6 +464,21 @@ public final class TermsTest {
             } else {
                 check.isNoGoal(goal);
             }
+        }
+        for (char letter : VARIABLES.toCharArray()) {
+            int[] facts = {0, 5, 0, 0, 1, 6, 4, 1, 1, 5, 5, 1};
+            due("a(V,_,_)b(V+1,<V,_)".replace('V', letter), 1, facts);
+            due("a(V,_,_)b(_,V,#V)".replace('V', letter), 1, facts);
+            due("a(V,_,_)b(>V,_,_)".replace('V', letter), 1, facts);
+            due("a(V,_,_)!b(V,V+1,_)?b(V,V,_)".replace('V', letter), 1, facts);
+            // What is met in between does not touch its value.
+            JoinNet net = Check.withRules("0,0,100:a(V,_,_)!c(_,_,_)*c(_,_,_)d(_,_,_)?b(_,V,_)=>+h(V,0,0)".replace('V', letter),
+                    "-1,0,100:a(V,_,_)*b(_,_,_)b(_,_,_)b(_,V,_)!c(1,_,_)=>+h(V,1,0)".replace('V', letter));
+            for (int i = 0; i + 3 < facts.length; i += 4) {
+                net.tell(facts[i], facts[i + 1], facts[i + 2], facts[i + 3], 100, NONE);
+            }
+            net.run(2);
+            check.isTrue("the value of " + letter, Check.has(net, 'h', 5, 0, 0) && Check.has(net, 'h', 5, 1, 0));
         }
         // All eleven are apart.
         JoinNet net = Check.withRules("0,0,100:a(p,q,r)b(s,t,u)c(v,w,x)$z:d(@,y,_)=>+e(p,q,r)+e(s,t,u)+e(v,w,x)+e(z,0,0)");
@@ -964,9 +998,10 @@ public final class TermsTest {
     private static void unlikeBeginnings() {
         String[] texts = {"a(_,_,_)", "a(_,_,_)<3", "a(_,_,_)<31", "a(_,_,_)<3a(_,_,_)", "a(_,_,_)a(_,_,_)/1", "a(_,_,_)a(_,_,_)",
             "a(1,_,_)", "a(01,_,_)", "a(x,_,_)", "a(y,_,_)", "a(_,_,_)!a(_,_,_)", "a(_,_,_)?a(_,_,_)", "a(_,_,_)*a(_,_,_)a(_,_,_)",
-            "a(_,_,_)*a(_,_,_)a(_,_,_)<3", "a(_,_,_)$t:a(@,_,_)", "a(_,_,_)$u:a(@,_,_)"};
+            "a(_,_,_)*a(_,_,_)a(_,_,_)<3", "a(_,_,_)$t:a(@,_,_)", "a(_,_,_)$u:a(@,_,_)", "b(_,_,_)", "a(_,_,1)", "b(_,_,_)!a(_,_,_)"};
         String[][] beginnings = {{"1"}, {"2"}, {"3"}, {"2", "4"}, {"1", "5"}, {"1", "6"}, {"7"}, {"8"}, {"9"}, {"10"}, {"1", "11"}, {"1", "12"},
-            {"1", "13"}, {"1", "14"}, {"1", "15"}, {"1", "16"}};
+            {"1", "13"}, {"1", "14"}, {"1", "15"}, {"1", "16"}, {"17"}, {"18"},
+            {"17", "19"}};
         for (int i = 0; i < texts.length; i++) {
             for (int j = 0; j < texts.length; j++) {
                 Set<String> due = new HashSet<>(List.of(beginnings[i]));
